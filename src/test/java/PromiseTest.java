@@ -1,3 +1,7 @@
+import java.util.ArrayList;
+import java.util.List;
+import java.util.Random;
+
 /** Each promise of the document by its number: ordinary inputs, edges, wrong inputs; all due answers worked out by hand. */
 public final class PromiseTest {
     private static final Due due = new Due("PromiseTest");
@@ -328,6 +332,12 @@ public final class PromiseTest {
         putAll(x, 1, 1, 0, 1, 0, 0, 24, 0, 0, 2, 0);
         due.is("11 up to one that may not be", x.read(1), 1);
         due.is("11 they come behind", x.count(6), 2);
+        CableCars third = one();
+        putAll(third, 0, 2, 1, 20, 5, 2, 0, 1, 2, 0, 0);
+        due.is("11 each to the last", third.read(0), 3);
+        due.is("11 the third holds", third.over(1), 0);
+        third.back();
+        due.is("11 the second is of no car", third.over(1), 4);
         putAll(x, 2, 2, -1, 0, 0);
         due.is("11 none may be", x.read(2), 0);
         x.sheet(3, 2, 0);
@@ -398,6 +408,8 @@ public final class PromiseTest {
     // 15
     private static void sum() {
         due.is("15 sum", one().sum(), 48);
+        due.is("15 moment 0 too", Due.told("ws4", "ab4", "3").sum(), 48);
+        due.is("15 moment 0 too", Due.told("ws4", "ab4", "3").waits(0, 3), 4);
         due.is("15 without people", Due.told(CAR, "", "").sum(), 0);
         due.is("15 three in a moment", Due.told("xo4", "ab4", "13").sum(), 48);
         due.is("15 down takes none", Due.told("ls9", "at9", "").sum(), 0);
@@ -741,6 +753,8 @@ public final class PromiseTest {
         CableCars z = Due.told("xs4", "ab3;bt1", "");
         // behind 0: 1, 2, 3 on; behind 12 the top is empty by any of them
         due.is("29 like ones", z.ask(0), 0);
+        // behind 0 rooms 8 and 9 alone are alike
+        due.is("29 the greatest rooms", Due.told("xs4", "ab8;at9", "").ask(0), 12);
         due.is("29 car", x.ask(1), BAD);
         due.is("29 car", x.ask(-1), BAD);
         CableCars late = Due.told("ws4", "ab9", "");
@@ -1008,6 +1022,11 @@ public final class PromiseTest {
         x.event(2, 9, 1);
         x.seen(0, 0, 2);
         due.is("39 told", x.digest(), digestByCalls(x));
+        Random random = new Random(39);
+        for (int i = 0; i < 40; i++) {
+            CableCars y = busy(random);
+            due.is("39 busy " + i, y.digest(), digestByCalls(y));
+        }
         long h = x.digest();
         x.lose(0);
         due.is("39 without findings", x.digest(), h);
@@ -1015,8 +1034,33 @@ public final class PromiseTest {
         due.holds("39 another one", x.digest() != h);
     }
 
+    /** Six cars, twelve comings, events and sightings: hardly two answers in it are alike. */
+    private static CableCars busy(Random random) {
+        StringBuilder cars = new StringBuilder();
+        StringBuilder comings = new StringBuilder();
+        StringBuilder speed = new StringBuilder();
+        for (int i = 0; i < 6; i++) {
+            cars.append(i == 0 ? "" : ";").append((char) ('a' + 4 * i + random.nextInt(4)));
+            cars.append("osg".charAt(random.nextInt(3))).append(1 + random.nextInt(9));
+        }
+        for (int i = 0; i < 12; i++) {
+            comings.append(i == 0 ? "" : ";").append((char) ('a' + random.nextInt(12)));
+            comings.append("bt".charAt(random.nextInt(2))).append(1 + random.nextInt(4));
+        }
+        for (int i = 0; i < 20; i++) {
+            speed.append(random.nextInt(4));
+        }
+        CableCars x = Due.told(cars.toString(), comings.toString(), speed.toString());
+        int events = random.nextInt(9);
+        for (int i = 0; i < events; i++) {
+            x.event(random.nextInt(3), random.nextInt(24), random.nextInt(6));
+        }
+        x.seen(3, 0, x.waits(3, 0));
+        return x;
+    }
+
     private static long digestByCalls(CableCars x) {
-        java.util.ArrayList<Long> all = new java.util.ArrayList<>();
+        List<Long> all = new ArrayList<>();
         for (int i = 0; i <= 7; i++) {
             all.add((long) x.count(i));
         }
