@@ -417,11 +417,12 @@ public final class PromiseTest {
 
     // 16
     private static void crowd() {
-        CableCars x = Due.told("xo4", "bb3;ct5;fb2;gt1", "");
+        CableCars x = Due.told("xo4", "bb3;ct5;fb4;gt3", "");
         due.is("16 bottom when", x.crowd(0, 0), 5);
-        due.is("16 bottom", x.crowd(0, 1), 5);
+        due.is("16 bottom", x.crowd(0, 1), 7);
         due.is("16 top when", x.crowd(1, 0), 6);
-        due.is("16 top", x.crowd(1, 1), 6);
+        due.is("16 top", x.crowd(1, 1), 8);
+        due.is("16 the least of like ones", Due.told("", "bb3", "").crowd(0, 0), 1);
         due.is("16 nobody", new CableCars().crowd(1, 0), 0);
         due.is("16 behind the moment", one().crowd(0, 1), 2);
         due.is("16 station", x.crowd(2, 0), BAD);
@@ -622,6 +623,9 @@ public final class PromiseTest {
         due.is("23 leaves empty", y.cheap(0, 0), 1);
         due.is("23 takes none", y.cheap(0, 1), 0);
         due.is("23 nothing changed", y.sum(), 48);
+        // only by three places it is at the bottom ahead of those who come
+        due.is("23 ahead of them", Due.told("vs4", "bb4", "").cheap(0, 0), 3);
+        due.is("23 ahead of them", Due.told("vs4", "bb4", "").cheap(0, 1), 0);
         due.is("23 moment", x.cheap(24, 0), BAD);
         due.is("23 moment", x.cheap(-1, 0), BAD);
         due.is("23 what", x.cheap(0, 2), BAD);
@@ -813,6 +817,7 @@ public final class PromiseTest {
         CableCars x = Due.told("xs4", "ab4;bb2", "0");
         due.is("31 1 later", x.years(1, 0, 0), 4);
         due.is("31 1 later", x.years(1, 0, 1), 48);
+        due.is("31 1 later, whatever is told", Due.told("xs4", "ab4", "000000000000000000000000").years(1, 0, 0), 4);
         // n = 1: two places in moment 0
         due.is("31 n 1", x.years(1, 1, 0), 4);
         due.is("31 nothing changed", x.speed(0), 0);
