@@ -39,6 +39,7 @@ public final class EdgePlanTest {
         promise29Numbers();
         promise29NoneOrOneOfRooms();
         promise29OfLikeOnesTheLeast();
+        promise29FirstAndLastOfRooms();
         promise29FirstAndLastMoment();
         promise29BothStations();
         promise30Numbers();
@@ -495,6 +496,15 @@ public final class EdgePlanTest {
         edge.is("29 no better later", Due.told("xs4", "ab3;at3", "").ask(0), 0);
         // behind 12 four at the top tell one more ROOM
         edge.is("29 better later", Due.told("xs4", "ab3;at4", "").ask(0), 12);
+    }
+
+    // the greatest number of those of ROOMS: the first and the last of them count
+    private static void promise29FirstAndLastOfRooms() {
+        // behind 0 all nine are alike, behind 12 ROOM 1 is told from the eight
+        edge.is("29 ROOM 1", Due.told("xs4", "ab1;at2", "").ask(0), 12);
+        // behind 0 ROOMS 8 and 9 are alike, behind 12 none are
+        edge.is("29 ROOM 9", Due.told("xs4", "ab8;at9", "").ask(0), 12);
+        edge.is("29 ROOM 9, it was told from 8", Due.told("xs4", "ab9;at9", "").ask(0), 0);
     }
 
     private static void promise29FirstAndLastMoment() {

@@ -18,6 +18,8 @@ public final class EdgeRideTest {
         promise12Jammed();
         promise12Gust();
         promise12GustAndJamWhereItStands();
+        promise12WhatIsToldLaterHolds();
+        promise12WhatIsUndoneDoesNot();
         promise13Numbers();
         promise13ComingsComeFirst();
         promise13NobodyAndMost();
@@ -250,6 +252,48 @@ public final class EdgeRideTest {
         edge.is("12 JAMMED where it stands", jam.at(1, 1, 1), 0);
     }
 
+    private static void promise12WhatIsToldLaterHolds() {
+        CableCars x = new CableCars();
+        edge.is("12 nothing told", x.waits(23, 0), 0);
+        Due.typeAll(x, 1, "ab4");
+        edge.is("12 COMINGS", x.waits(23, 0), 4);
+        Due.typeAll(x, 0, "xo4");
+        edge.is("12 a CAR", x.over(1), 4);
+        edge.is("12 a CAR", x.at(0, 0, 0), 0);
+        Due.typeAll(x, 2, "0");
+        edge.is("12 THE SPEED", x.at(0, 0, 0), 23);
+        edge.is("12 THE SPEED", x.at(1, 0, 1), 4);
+        x.event(0, 1, 0);
+        edge.is("12 an EVENT", x.at(1, 0, 1), 0);
+        x.back();
+        edge.is("12 none", x.at(1, 0, 1), 4);
+        Edge.putAll(x, 0, 0, 2, 1, 0);
+        x.read(0);
+        edge.is("12 EVENTS of a SHEET", x.at(1, 0, 1), 0);
+        edge.is("12 IDLE", x.idle(), 1);
+    }
+
+    private static void promise12WhatIsUndoneDoesNot() {
+        CableCars x = Due.told("xs4;ws4;ls4", "ab9;at4", "2");
+        edge.is("12 three CARS", x.waits(0, 0), 1);
+        for (int i = 0; i < 4; i++) {
+            x.undo(0);
+        }
+        edge.is("12 two CARS", x.waits(0, 1), 4);
+        edge.is("12 two CARS", x.waits(0, 0), 1);
+        for (int i = 0; i < 4; i++) {
+            x.undo(0);
+        }
+        edge.is("12 one CAR", x.waits(0, 0), 5);
+        x.undo(0);
+        edge.is("12 a FAULT, no CARS", x.waits(0, 0), 9);
+        x.wipe(1);
+        edge.is("12 no COMINGS", x.waits(0, 0), 0);
+        x.wipe(2);
+        Due.typeAll(x, 0, "1");
+        edge.is("12 no SPEED told", x.at(0, 0, 0), 0);
+    }
+
     // 13: BAD
     private static void promise13Numbers() {
         edge.range("13 MOMENT", 0, 23, (x, moment) -> x.waits(moment, 0));
@@ -462,9 +506,14 @@ public final class EdgeRideTest {
         firstIs("nobody", Due.told(Edge.SIX_CARS, "", Edge.ALL_SPEED), NONE, NONE);
         firstIs("nobody gets in", Due.told("xg1", "ab9", ""), NONE, NONE);
         firstIs("they get in, not out", late(24), NONE, NONE);
+        CableCars x = Due.told("bs1;xs4", "ab4", "");
+        firstIs("there was one", x, 12, 1);
+        x.event(2, 12, 1);
+        firstIs("now there is none", x, NONE, NONE);
     }
 
     private static void promise17EarliestAndLatest() {
+        firstIs("one alone", Due.told("xs4", "ab1", ""), 12, 0);
         firstIs("as fast as it goes", Due.told("xs4", "ab4", "33333"), 4, 0);
         firstIs("in 22", late(11), 22, 0);
         firstIs("in 23", late(12), 23, 0);
@@ -530,6 +579,10 @@ public final class EdgeRideTest {
         edge.is("19 one place short in 23", Due.told("as1", "xb1", "0").idle(), 1);
         edge.is("19 in 0, where it stands", Due.told("as1", "ab1", Edge.times(24, "0")).idle(), 0);
         edge.is("19 in it yet", late(13).idle(), 0);
+        CableCars again = Due.told("xs4", "ab1", "");
+        edge.is("19 one got in", again.idle(), 0);
+        again.wipe(1);
+        edge.is("19 nobody comes now", again.idle(), 1);
         edge.is("19 goods, ROOM 1", Due.told("xg1", "ab9", "").idle(), 1);
         edge.is("19 goods, ROOM 2", Due.told("xg2", "ab9", "").idle(), 0);
     }
