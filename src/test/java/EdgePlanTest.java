@@ -11,6 +11,7 @@ public final class EdgePlanTest {
         promise21WhereNoOtherOneHangs();
         promise21OfLikeOnesTheLeast();
         promise21FirstAndLastPlace();
+        promise21ThereIsNoPlaceTwentyFour();
         promise21NothingChanges();
         promise22Numbers();
         promise22NoneToThreePlaces();
@@ -106,6 +107,17 @@ public final class EdgePlanTest {
         // thirteen places: from 23 it comes to the bottom in 0, to the top in 12
         hangIs("23 alone", Due.told("ms4", "ab4", "1111111111111" + Edge.times(11, "0")), 0, 23, 4);
         hangIs("22 needs one more", Due.told("ms4;xg1", "ab4", "11111111111111" + Edge.times(10, "0")), 0, 22, 4);
+    }
+
+    private static void promise21ThereIsNoPlaceTwentyFour() {
+        // At 0 it takes the one at the bottom along, cannot let him out at the top for the GUST, and has ROOM there for
+        // three of four, who come as it stands: with twelve places to go from there no other PLACE is in time for them.
+        // One that went as from 0, yet did not stand at the bottom at first, would leave him to the other CAR: five.
+        CableCars x = Due.told("ao4;xs9", "ab1;nt4", "0" + Edge.times(12, "1") + "022");
+        x.event(0, 12, 0);
+        hangIs("0 to 23", x, 0, 0, 4);
+        edge.is("21 it is at the top as it stands", x.at(13, 0, 0), 12);
+        edge.is("21 it is at the bottom at last", x.at(23, 0, 0), 0);
     }
 
     private static void promise21NothingChanges() {
