@@ -21,6 +21,10 @@ public final class CableCars {
     private static final int BYTES = 0, SHORTS = 1, INTS = 2;
     private static final int NULL = 1, INDEX = 2, CAST = 3, STORE = 4, SIZE = 5;
 
+    // rule 4 of LANGUAGE.md lists functions of Integer and Long, not their constants
+    private static final int LEAST_INT = 1 << 31;
+    private static final long LEAST_LONG = 1L << 63;
+
     private static final int[] DIGEST_MOMENTS = {0, 5, 12, 23};
 
     private final Text carText = new Text(CAR_BYTES);
@@ -273,12 +277,12 @@ public final class CableCars {
         }
         planAsTold();
         int best = NONE;
-        int least = Integer.MAX_VALUE;
+        int least = NONE;
         for (int places = 0; places <= FASTEST; places++) {
             plan.pace[moment] = places;
             trial.run(plan, LAST);
             int power = trial.allPower();
-            if (power < least) {
+            if (best == NONE || power < least) {
                 best = places;
                 least = power;
             }
@@ -355,7 +359,7 @@ public final class CableCars {
     public long chance(int c, int moment, int what) {
         if (!within(c, 0, 16) || !isMoment(moment) || !within(what, 0, 1)) {
             // the least long and 2 more, as the document asks where a long is answered
-            return Long.MIN_VALUE - BAD;
+            return LEAST_LONG - BAD;
         }
         long above = sharesWithNobodyWaiting(c, moment);
         long below = 1L << (4 * events.size);
@@ -429,12 +433,12 @@ public final class CableCars {
     public int get(int s, int form, int i) {
         Sheet from = sheetOf(s);
         if (from == null || !isForm(form)) {
-            return Integer.MIN_VALUE;
+            return LEAST_INT;
         }
         int wrong = from.wrongWith(form, i);
         if (wrong != 0) {
             finding = wrong;
-            return Integer.MIN_VALUE;
+            return LEAST_INT;
         }
         return from.items[i];
     }

@@ -17,7 +17,7 @@ public final class RulesTest {
     private static final Pattern CALL = Pattern.compile("\\b([a-zA-Z]+)\\(");
     private static final Set<String> NO_CALLS = Set.of("if", "for", "while", "switch", "return");
     private static final Set<String> LIBRARY = Set.of("System.arraycopy", "Arrays.fill", "Math.min", "Math.max", "Integer.bitCount",
-        "Integer.MAX_VALUE", "Integer.MIN_VALUE", "Long.MIN_VALUE", "signs.indexOf");
+        "signs.indexOf");
 
     public static void main(String[] args) throws IOException {
         String raw = Files.readString(Path.of("src/main/java/CableCars.java"));
